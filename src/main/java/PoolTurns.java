@@ -314,7 +314,7 @@ public final class PoolTurns {
         return hash;
     }
 
-    /** The bits of a double above 0 and at most 1, made by hand, since the language leaves out the class Double. */
+    /** The bits of a double above 0 and at most 1, made by hand, since the language leaves out the class for that. */
     private static long bitsOfShare(double share) {
         double scaled = share;
         long exponent = 1023;

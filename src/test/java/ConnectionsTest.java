@@ -10,6 +10,7 @@ public final class ConnectionsTest {
         sicken();
         check();
         drain();
+        drainOfAll();
         setRanges();
         setServes();
         setKeepsWhatIsThere();
@@ -58,6 +59,14 @@ public final class ConnectionsTest {
         Due.equal("place closed", x.place(1, 2), 0);
         Due.equal("opened anew, sound", x.ask(3), 1);
         Due.row("new connection", Due.place(x, 1), 2, 3, 0, 1, 0, 2);
+    }
+
+    private static void drainOfAll() {
+        PoolTurns x = new PoolTurns();
+        x.set(0, 8);
+        Due.play(x, "a0a1a2a3a4a5a6a7s0s7g0g1g2g3g4g5g6g7");
+        Due.equal("all eight", x.drain(), 8);
+        Due.row("counts", Due.counts(x), 0, 0, 0, 0, 0, 0, 8, 8, 0, 0, 0, 0, 8, 3);
     }
 
     private static void setRanges() {

@@ -6,6 +6,7 @@ public final class ForecastsTest {
     public static void main(String[] args) {
         ifAsked();
         ifAskedClosesThoughItWaits();
+        ifAskedOfOneBehindAnother();
         ifAskedRefuses();
         ifPassed();
         ifPassedRefuses();
@@ -15,6 +16,8 @@ public final class ForecastsTest {
         fairness();
         digestOfNew();
         digestByItsList();
+        digestOfShares();
+        digestForesees12();
         digestSeesTheBuffer();
         Due.end();
     }
@@ -53,6 +56,20 @@ public final class ForecastsTest {
         asked(x, 3, -1, 0, 1);
         Due.equal("so it is", x.ask(3), -1);
         Due.equal("closed", x.count(8), 1);
+        asked(x, 3, -1, 0, 0);
+        x.set(0, 3);
+        asked(x, 4, -1, 0, 0);
+        Due.play(x, "g0");
+        asked(x, 4, 0, 0, 0);
+    }
+
+    private static void ifAskedOfOneBehindAnother() {
+        PoolTurns x = new PoolTurns();
+        Due.play(x, "a0s0g0v1");
+        Due.equal("one would be closed", x.ifAsked(0, 2), 1);
+        Due.equal("nothing of that for who cannot ask", x.ifAsked(1, 2), 0);
+        Due.equal("one would be opened", x.ifAsked(0, 1), 1);
+        Due.equal("nor of this", x.ifAsked(1, 1), 0);
     }
 
     private static void ifAskedRefuses() {
@@ -91,6 +108,8 @@ public final class ForecastsTest {
         passed(x, 4, 0, 0, 2, 0);
         passed(x, 5, 0, 1, 1, 0);
         passed(x, 25, 0, 1, 1, 0);
+        x.drain();
+        passed(x, 25, 0, 0, 1, 0);
     }
 
     private static void ifPassedRefuses() {
@@ -115,6 +134,8 @@ public final class ForecastsTest {
         Due.equal("changes nothing", x.digest(), before);
         Due.equal("nobody gives up", x.pass(5), 0);
         Due.equal("so it is", x.owner(1, 1) + x.owner(2, 1), 2);
+        Due.play(x, "v1c0a0+4");
+        Due.equal("the lowest owner too", x.waitsFor(0), 6);
         Due.refused(x, "waitsFor(-1)", INDEX, () -> x.waitsFor(-1));
         Due.refused(x, "waitsFor(8)", INDEX, () -> x.waitsFor(8));
     }
@@ -156,6 +177,11 @@ public final class ForecastsTest {
         Due.equal("most of all", x.blocker(), 7);
         x.giveUp(1);
         Due.equal("nobody waits again", x.blocker(), -1);
+
+        PoolTurns y = new PoolTurns();
+        y.set(0, 1);
+        Due.play(y, "a0a1");
+        Due.equal("who has but one blocks too", y.blocker(), 0);
     }
 
     private static void bits(String what, double got, double want) {
@@ -195,6 +221,28 @@ public final class ForecastsTest {
             Due.write(x, "g" + (round % 4) + "a" + (round % 8));
             x.run();
             Due.equal("digest in round " + round, x.digest(), byItsList(x, ""));
+        }
+    }
+
+    private static void digestOfShares() {
+        PoolTurns x = new PoolTurns();
+        for (int greatest = 1; greatest <= 17; greatest++) {
+            Due.play(x, "a0g0");
+        }
+        for (int least = 1; least <= 17; least++) {
+            Due.play(x, "a1g0");
+            bits("share " + least, x.fairness(), least / 17.0);
+            Due.equal("digest with share " + least, x.digest(), byItsList(x, ""));
+        }
+    }
+
+    private static void digestForesees12() {
+        for (int waited = 1; waited <= 5; waited++) {
+            PoolTurns x = new PoolTurns();
+            x.set(0, 1);
+            Due.play(x, "a0a1+" + waited);
+            Due.equal("gives up in 12 units", x.ifPassed(12, 0), waited < 3 ? 0 : 1);
+            Due.equal("digest behind " + waited, x.digest(), byItsList(x, ""));
         }
     }
 

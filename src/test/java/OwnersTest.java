@@ -8,7 +8,9 @@ public final class OwnersTest {
         askLendsAndOpens();
         askTakesIdleOnesInTurn();
         askChecksWhatItLends();
+        askChecksAllEight();
         askWaits();
+        eightWait();
         askBehindOneWhoMayHaveNoMore();
         askRefuses();
         give();
@@ -74,6 +76,28 @@ public final class OwnersTest {
         Due.equal("without checks a sick one is lent", y.ask(1), 0);
         Due.row("sick, used twice", Due.place(y, 0), 2, 1, 1, 2, 0, 1);
         Due.equal("no check", y.count(11), 0);
+    }
+
+    private static void askChecksAllEight() {
+        PoolTurns x = new PoolTurns();
+        x.set(0, 8);
+        Due.play(x, "a0a1a2a3a4a5a6a7s0s1s2s3s4s5s6s7g0g1g2g3g4g5g6g7");
+        Due.equal("the lowest place, opened anew", x.ask(5), 0);
+        Due.row("counts", Due.counts(x), 0, 1, 0, 1, 0, 0, 9, 8, 8, 0, 0, 8, 9, 3);
+    }
+
+    private static void eightWait() {
+        PoolTurns x = new PoolTurns();
+        x.set(0, 1);
+        Due.play(x, "a3a7a6a5a4a3a2a1a0");
+        Due.equal("all of them", x.count(5), 8);
+        Due.equal("the last one", x.owner(0, 2), 7);
+        Due.equal("the first one gets it", x.give(0), 7);
+        for (int at = 0; at < 7; at++) {
+            Due.equal("moved up", x.owner(6 - at, 2), at);
+        }
+        x.set(0, 8);
+        Due.row("in their turns", Due.places(x, 1), 7, 6, 5, 4, 3, 2, 1, 0);
     }
 
     private static void askWaits() {
